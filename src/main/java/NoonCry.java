@@ -855,6 +855,7 @@ public final class NoonCry {
             crossing.fillSide(BID, rule);
             crossing.fillSide(OFFER, rule);
             trade(crossing);
+            book.removeEmpty();
             return crossing.volume;
         }
 
@@ -867,7 +868,6 @@ public final class NoonCry {
                 traders.coins[trader] -= bought * crossing.price;
                 book.quantity[row] -= pieces;
             }
-            book.removeEmpty();
             lastPrice = crossing.price;
             tally.good++;
             tally.traded += crossing.volume;
@@ -1027,7 +1027,8 @@ public final class NoonCry {
             for (int row = 0; row < count; row++) {
                 if (side[row] == wanted) {
                     int at = lined;
-                    while (at > 0 && isAhead(row, turn[at - 1])) {
+                    while (at > 0 && (wanted == BID ? limit[row] > limit[turn[at - 1]]
+                            : limit[row] < limit[turn[at - 1]])) {
                         turn[at] = turn[at - 1];
                         at--;
                     }
@@ -1036,10 +1037,6 @@ public final class NoonCry {
                 }
             }
             return lined;
-        }
-
-        private boolean isAhead(int row, int earlier) {
-            return side[row] == BID ? limit[row] > limit[earlier] : limit[row] < limit[earlier];
         }
 
         int placeInLine(int row) {
