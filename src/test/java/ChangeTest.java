@@ -14,6 +14,7 @@ public final class ChangeTest {
         promise59();
         promise60();
         theOrderInAMinute();
+        fullBooks();
         promise61();
         promise62();
         promise63();
@@ -177,6 +178,21 @@ public final class ChangeTest {
         noon = Check.loaded("market 1 50 0 time;trader a 9999 50;bid a 50 9 1;offer a 50 4 20;");
         check.same("the last minute still counts", noon.pass(1), 4);
         check.same("late", noon.lateOrders(), 0);
+    }
+
+    private static void fullBooks() {
+        String full = "market 9 5 0 time;trader a 99 99;" + "bid a 5 1 9;".repeat(10) + "offer a 5 1 0;".repeat(10);
+        check.same("all trade", Check.loaded(full).cry(), 10);
+        NoonCry noon = Check.loaded(full);
+        noon.pass(1);
+        check.same("ten are late", noon.orderCount(), 10);
+        check.same("the others stay", noon.orderAt(9), 9);
+        check.same("cleared", Check.loaded(full + "clear a;").orderCount(), 0);
+        noon = Check.loaded(full);
+        check.same("the last order", noon.withdraw(19), 1);
+        check.same("the first order", noon.withdraw(0), 1);
+        check.same("the second order is the first now", noon.orderAt(0), 1);
+        check.same("eighteen orders", noon.orderAt(17), 18);
     }
 
     private static void promise61() {

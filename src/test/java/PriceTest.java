@@ -74,6 +74,8 @@ public final class PriceTest {
         noon.withdraw(6);
         check.same("cryPrice", noon.cryPrice(), -1);
         check.same("cryVolume", noon.cryVolume(), 0);
+        noon.undo();
+        check.same("cryVolume behind a change", noon.cryVolume(), 4);
         noon = market(500, "time", "");
         check.same("no orders", noon.cryPrice(), -1);
         check.same("no orders", noon.cryVolume(), 0);
@@ -91,10 +93,15 @@ public final class PriceTest {
         check.same("the last price", market(47, "time", even).cryPrice(), 47);
         check.same("the whole range", market(321, "time", "bid a 999 1 9;offer a 1 1 9;").cryPrice(), 321);
         check.same("the lowest price", market(1, "time", "bid a 999 1 9;offer a 1 1 9;").cryPrice(), 1);
+        check.same("999 alone", market(5, "time", "bid a 999 1 9;offer a 999 1 9;").cryPrice(), 999);
+        check.same("1 alone", market(5, "time", "bid a 1 1 9;offer a 1 1 9;").cryPrice(), 1);
         check.same("the highest price", market(999, "time", "bid a 999 1 9;offer a 1 1 9;").cryPrice(), 999);
         // the surplus is 2 from 40 to 49 and from 51 to 60, and 4 at 50 alone
         String two = "bid a 60 5 9;bid a 50 2 9;offer a 40 5 9;offer a 51 2 9;";
         check.same("smaller surplus", market(50, "time", two).cryPrice(), 50);
+        // the surplus is 2 up to 50, where there is more demand, and 1 from 51 on, where there is more supply
+        check.same("smaller surplus above", market(45, "time", "bid a 60 5 9;bid a 50 2 9;offer a 40 5 9;offer a 51 1 9;").cryPrice(), 51);
+        check.same("smaller surplus below", market(55, "time", "bid a 60 5 9;bid a 50 1 9;offer a 40 5 9;offer a 51 2 9;").cryPrice(), 50);
         String gap = "bid a 60 7 9;bid a 49 2 9;offer a 40 7 9;offer a 51 2 9;";
         check.same("no surplus between", market(10, "time", gap).cryPrice(), 50);
         String apart = "bid a 60 5 9;bid a 49 2 9;bid a 50 2 9;offer a 40 9 9;offer a 51 4 9;";
@@ -159,7 +166,10 @@ public final class PriceTest {
         check.same("none", market(50, "time", "bid a 50 2 9;offer a 60 2 9;").partialFills(), 0);
         check.same("whole ones", market(50, "time", "bid a 50 2 9;offer a 50 2 9;").partialFills(), 0);
         check.same("shared", market(50, "share", "bid a 50 4 9;bid a 50 4 9;bid a 50 4 9;offer a 50 2 9;").partialFills(), 2);
-        check.same("in time", market(50, "time", "bid a 50 4 9;bid a 50 4 9;bid a 50 4 9;offer a 50 2 9;").partialFills(), 1);
+        NoonCry inTime = market(50, "time", "bid a 50 4 9;bid a 50 4 9;bid a 50 4 9;offer a 50 2 9;");
+        check.same("in time", inTime.partialFills(), 1);
+        inTime.withdraw(3);
+        check.same("after a withdraw", inTime.partialFills(), 0);
     }
 
     private static void promise36() {
@@ -175,6 +185,11 @@ public final class PriceTest {
         NoonCry deep = market(50, "time", "bid a 60 2 9;bid a 55 2 9;bid a 52 2 9;offer a 40 3 9;offer a 45 1 9;");
         check.same("the second bid", deep.lastLimit(0), 55);
         check.same("the second offer", deep.lastLimit(1), 45);
+        deep.withdraw(4);
+        check.same("after a withdraw", deep.lastLimit(1), 40);
+        check.same("after a withdraw", deep.lastLimit(0), 55);
+        deep.withdraw(3);
+        check.same("after a withdraw", deep.lastLimit(0), -1);
     }
 
     private static void promises37And38() {
@@ -182,6 +197,8 @@ public final class PriceTest {
         int[][] due = {{3, 53, 4}, {4, 52, 4}, {5, 52, 4}, {6, -1, 0}, {7, 52, 4}};
         for (int[] row : due) {
             check.same("priceWithout", noon.priceWithout(row[0]), row[1]);
+        }
+        for (int[] row : due) {
             check.same("volumeWithout", noon.volumeWithout(row[0]), row[2]);
         }
         for (int order : NO_ORDERS) {
@@ -244,6 +261,12 @@ public final class PriceTest {
         NoonCry great = market(5, "time", "offer a 7 99 9;".repeat(11));
         check.same("999 pieces", great.priceToBuy(999), 7);
         check.same("no bids", great.priceToSell(1), -1);
+        check.same("one bid", market(5, "time", "bid a 8 9 9;").priceToSell(9), 8);
+        NoonCry full = market(5, "time", "bid a 5 1 9;".repeat(10) + "offer a 6 1 9;".repeat(10));
+        check.same("a full book", full.priceToSell(10), 5);
+        check.same("a full book", full.priceToSell(11), -1);
+        check.same("a full book", full.priceToBuy(10), 6);
+        check.same("a full book", full.priceToBuy(11), -1);
     }
 
     private static void promise43() {
@@ -294,6 +317,12 @@ public final class PriceTest {
         noon.place(1, 0, 90, 10, 1);
         check.isTrue("stopped", noon.wouldStop());
         check.same("as if it was not stopped", noon.coinsAfterCry(3), 1420 + 5 * noon.cryPrice());
+        NoonCry full = market(5, "time", "bid a 5 1 9;".repeat(20) + "trader b 0 9;");
+        check.same("a full book", full.coinsAfterCry(0), 999999);
+        full.withdraw(0);
+        full.place(1, 1, 5, 9, 9);
+        check.same("a full book", full.coinsAfterCry(0), 999999 - 45);
+        check.same("a full book", full.coinsAfterCry(1), 45);
         NoonCry quiet = new NoonCry();
         quiet.withdraw(6);
         check.same("no price", quiet.coinsAfterCry(3), 1420);

@@ -41,6 +41,10 @@ public final class TallyTest {
         check.same("lateOrders", noon.lateOrders(), 0);
         check.sameReal("tradedShare", noon.tradedShare(), 0.0f);
         check.sameReal("meanPrice", noon.meanPrice(), 0.0);
+        Check.load(noon, HEAD + "bid a 50 4 2;offer b 50 3 9;cry;");
+        Check.load(noon, HEAD + "bid a 51 6 2;offer b 51 2 9;cry;");
+        check.sameReal("tradedShare", noon.tradedShare(), 2.0f / 8.0f);
+        check.sameReal("meanPrice", noon.meanPrice(), 51.0);
     }
 
     private static void promises46And47() {
@@ -97,6 +101,10 @@ public final class TallyTest {
         noon.undo();
         noon.undo();
         check.same("undone", noon.coinDifference(), 0);
+        NoonCry eight = Check.loaded("market 1 1 0 time;" + "trader a 7 8;trader b 7 8;trader c 7 8;trader d 7 8;"
+            + "trader e 7 8;trader f 7 8;trader g 7 8;trader h 7 8;bid h 7 1 9;offer a 7 1 9;cry;");
+        check.same("eight traders", eight.coinDifference(), 0);
+        check.same("eight traders", eight.goodDifference(), 0);
         check.same("no traders", Check.loaded("market 1 1 0 time;").goodDifference(), 0);
     }
 

@@ -21,6 +21,7 @@ public final class TextTest {
         changeErrors();
         formErrors();
         smallestCode();
+        cutTexts();
         check.finish();
     }
 
@@ -291,6 +292,11 @@ public final class TextTest {
     private static void formErrors() {
         behind(HEAD, "market 5 50 0 time;", 1, 0);
         behind(HEAD, "period 0;", 2, 7);
+        check.same("period 1", Check.loaded(HEAD + "period 1;").minutesToCry(), 1);
+        check.same("period 60", Check.loaded(HEAD + "period 60;").minutesToCry(), 60);
+        check.same("band 999", Check.loaded(HEAD + "band 999;").band(), 999);
+        fault("narket 5 50 0 time;", 1, 0);
+        behind(HEAD, "dry;", 1, 0);
         behind(HEAD, "period 61;", 2, 7);
         behind(HEAD, "period a;", 1, 7);
         behind(HEAD, "rule luck;", 4, 5);
@@ -310,6 +316,22 @@ public final class TextTest {
         behind(HEAD, "cry;\u00e9", 1, 4);
         behind(HEAD, "pass -1;", 1, 5);
         behind(HEAD, "pass 1.5;", 1, 6);
+    }
+
+    private static void cutTexts() {
+        NoonCry noon = new NoonCry();
+        Check.write(noon, HEAD + "crying");
+        noon.truncate(HEAD.length() + 3);
+        check.same("a word is cut", noon.load(), -7);
+        check.same("offset", noon.errorOffset(), HEAD.length() + 3);
+        Check.write(noon, "market 599 9 9 time;");
+        noon.truncate(8);
+        check.same("a number is cut", noon.load(), -7);
+        check.same("offset", noon.errorOffset(), 8);
+        fault(HEAD + " ".repeat(597 - HEAD.length()) + "cry", 1, 600);
+        fault(HEAD + " ".repeat(594 - HEAD.length()) + "band 9", 1, 600);
+        fault(HEAD + " ".repeat(593 - HEAD.length()) + "band 9 ", 1, 600);
+        check.same("a full buffer", Check.load(noon, HEAD + " ".repeat(596 - HEAD.length()) + "cry;"), 0);
     }
 
     private static void smallestCode() {
