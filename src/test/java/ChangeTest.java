@@ -265,23 +265,27 @@ public final class ChangeTest {
         check.same("band", noon.band(), 2);
     }
 
-    private static void everyChangeIsUndone() {
+    private static NoonCry changed(int changes) {
         NoonCry noon = new NoonCry();
-        String[] before = new String[10];
-        for (int change = 0; change < before.length; change++) {
-            before[change] = Check.state(noon);
+        for (int change = 0; change < changes; change++) {
             change(noon, change);
-            if (change >= 4) {
-                String after = Check.state(noon);
-                check.same("undo " + change, noon.undo(), Math.min(change, 5));
-                check.sameText("undone " + change, Check.state(noon), before[change]);
-                change(noon, change);
-                check.sameText("again " + change, Check.state(noon), after);
+        }
+        return noon;
+    }
+
+    private static void everyChangeIsUndone() {
+        for (int changes = 1; changes <= 10; changes++) {
+            for (int undone = 1; undone <= Math.min(6, changes); undone++) {
+                NoonCry noon = changed(changes);
+                for (int left = 1; left <= undone; left++) {
+                    check.same("undo of " + changes, noon.undo(), Math.min(6, changes) - left);
+                }
+                check.sameText("undone " + undone + " of " + changes, Check.state(noon), Check.state(changed(changes - undone)));
             }
         }
-        for (int change = before.length - 1; change >= 4; change--) {
-            check.same("undo", noon.undo(), change - 4);
-            check.sameText("undone", Check.state(noon), before[change]);
+        NoonCry noon = changed(10);
+        for (int left = 5; left >= 0; left--) {
+            noon.undo();
         }
         check.fails("only six", IllegalStateException.class, noon::undo);
     }

@@ -1,8 +1,12 @@
+import java.util.BitSet;
 import java.util.concurrent.Callable;
 
 /** Compares answers with what is due, and brings texts into the input buffer. */
 final class Check {
     private final String name;
+    private final BitSet promises = new BitSet();
+    private String sentence = "";
+    private int sentences;
     private int calls;
     private int wrong;
 
@@ -10,28 +14,44 @@ final class Check {
         this.name = name;
     }
 
-    void same(String what, long got, long want) {
-        calls++;
-        if (got != want) {
-            wrong++;
-            System.out.println(name + ": " + what + " answered " + got + ", due is " + want);
+    /** Begins the test of a sentence of a promise; what is wrong is told with it. */
+    void promise(int number, String newSentence) {
+        promises.set(number);
+        sentence("Promise " + number + ", " + newSentence);
+    }
+
+    /** Begins the test of a sentence of another part of the document. */
+    void sentence(String newSentence) {
+        sentences++;
+        sentence = newSentence + ": ";
+    }
+
+    /** Each promise from 1 to the last one must have had a test of a sentence. */
+    void needPromises(int last) {
+        sentence = "";
+        for (int number = 1; number <= last; number++) {
+            isTrue("a sentence of promise " + number, promises.get(number));
         }
+    }
+
+    private void compare(String what, boolean same, Object got, Object want) {
+        calls++;
+        if (!same) {
+            wrong++;
+            System.out.println(name + ": " + sentence + what + " answered " + got + ", due is " + want);
+        }
+    }
+
+    void same(String what, long got, long want) {
+        compare(what, got == want, got, want);
     }
 
     void sameReal(String what, double got, double want) {
-        calls++;
-        if (Double.compare(got, want) != 0) {
-            wrong++;
-            System.out.println(name + ": " + what + " answered " + got + ", due is " + want);
-        }
+        compare(what, Double.compare(got, want) == 0, got, want);
     }
 
     void sameText(String what, String got, String want) {
-        calls++;
-        if (!got.equals(want)) {
-            wrong++;
-            System.out.println(name + ": " + what + " answered " + got + ", due is " + want);
-        }
+        compare(what, got.equals(want), got, want);
     }
 
     void isTrue(String what, boolean got) {
@@ -57,7 +77,8 @@ final class Check {
 
     /** Prints what came out, and ends the program with 1 if an answer was wrong. */
     void finish() {
-        System.out.println(name + ": " + calls + " answers, " + wrong + " wrong");
+        String tests = sentences == 0 ? "" : sentences + " sentences, ";
+        System.out.println(name + ": " + tests + calls + " answers, " + wrong + " wrong");
         if (wrong != 0) {
             System.exit(1);
         }

@@ -96,9 +96,9 @@ public final class PriceTest {
         check.same("999 alone", market(5, "time", "bid a 999 1 9;offer a 999 1 9;").cryPrice(), 999);
         check.same("1 alone", market(5, "time", "bid a 1 1 9;offer a 1 1 9;").cryPrice(), 1);
         check.same("the highest price", market(999, "time", "bid a 999 1 9;offer a 1 1 9;").cryPrice(), 999);
-        // the surplus is 2 from 40 to 49 and from 51 to 60, and 4 at 50 alone
+        // the surplus is 2 everywhere, of demand up to 50 and of supply from 51 on
         String two = "bid a 60 5 9;bid a 50 2 9;offer a 40 5 9;offer a 51 2 9;";
-        check.same("smaller surplus", market(50, "time", two).cryPrice(), 50);
+        check.same("the same surplus", market(50, "time", two).cryPrice(), 50);
         // the surplus is 2 up to 50, where there is more demand, and 1 from 51 on, where there is more supply
         check.same("smaller surplus above", market(45, "time", "bid a 60 5 9;bid a 50 2 9;offer a 40 5 9;offer a 51 1 9;").cryPrice(), 51);
         check.same("smaller surplus below", market(55, "time", "bid a 60 5 9;bid a 50 1 9;offer a 40 5 9;offer a 51 2 9;").cryPrice(), 50);
