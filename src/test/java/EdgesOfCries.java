@@ -325,7 +325,7 @@ final class EdgesOfCries {
     }
 
     private void is(NoonCry noon, Object due, Edges.Call call) {
-        check.sameText("answer", Check.answer(() -> call.on(noon)), due.toString());
+        check.sameText("a question", Check.answer(() -> call.on(noon)), due.toString());
     }
 
     private void aFullBook() {
