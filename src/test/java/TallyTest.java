@@ -129,5 +129,7 @@ public final class TallyTest {
         check.sameReal("meanPrice", noon.meanPrice(), (7 * 55 + 4 * 40) / 11.0);
         noon.withdraw(noon.place(0, 0, 40, 80, 9));
         check.sameReal("withdrawn orders were placed", noon.tradedShare(), 11.0f / 102.0f);
+        NoonCry amended = Check.loaded(HEAD + "band 0;bid a 50 8 9;offer b 50 2 9;amend 0 3;cry;");
+        check.sameReal("an amended order was placed as a whole", amended.tradedShare(), 2.0f / 10.0f);
     }
 }
