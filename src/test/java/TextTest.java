@@ -13,6 +13,7 @@ public final class TextTest {
         promise4();
         promise4EmptiesAndKeeps();
         statements();
+        statementsAlone();
         amendedOrders();
         promise5And6();
         marketErrors();
@@ -142,6 +143,32 @@ public final class TextTest {
         check.same("the whole goods", Check.load(new NoonCry(), HEAD + "give a b 9;"), 0);
         noon = Check.loaded("market 1 1 0 time;trader a 999999 9999;trader b 9 9999;give b a 9999;");
         check.same("more goods than 9999", noon.goodsOf(0), 19998);
+    }
+
+    /** Each statement does what it says and nothing else. */
+    private static void statementsAlone() {
+        String bids = "0 0 0 9 3 10|1 0 0 8 3 10|";
+        String offer = "2 1 1 60 3 10|";
+        alone("", "0 50 20 0 5|100 9 49 9|50 9 50 6|" + bids + offer);
+        alone("trader c 1 2;", "0 50 20 0 5|100 9 49 9|50 9 50 6|1 2 1 2|" + bids + offer);
+        alone("bid a 49 1 0;", "0 50 20 0 5|100 9 0 9|50 9 50 6|" + bids + offer + "3 0 0 49 1 1|");
+        alone("offer b 61 6 999;", "0 50 20 0 5|100 9 49 9|50 9 50 0|" + bids + offer + "3 1 1 61 6 1000|");
+        alone("withdraw 0;", "0 50 20 0 5|100 9 76 9|50 9 50 6|1 0 0 8 3 10|" + offer);
+        alone("amend 0 2;", "0 50 20 0 5|100 9 58 9|50 9 50 6|0 0 0 9 2 10|1 0 0 8 3 10|" + offer);
+        alone("extend 0 3;", "0 50 20 0 5|100 9 49 9|50 9 50 6|0 0 0 9 3 4|1 0 0 8 3 10|" + offer);
+        alone("clear a;", "0 50 20 0 5|100 9 100 9|50 9 50 6|" + offer);
+        alone("give a b 4;", "0 50 20 0 5|100 5 49 5|50 13 50 10|" + bids + offer);
+        alone("period 7;", "0 50 20 0 7|100 9 49 9|50 9 50 6|" + bids + offer);
+        alone("rule share;", "0 50 20 1 5|100 9 49 9|50 9 50 6|" + bids + offer);
+        alone("band 3;", "0 50 3 0 5|100 9 49 9|50 9 50 6|" + bids + offer);
+        alone("pass 2;", "2 50 20 0 3|100 9 49 9|50 9 50 6|0 0 0 9 3 8|1 0 0 8 3 8|2 1 1 60 3 8|");
+        alone("cry;", "0 50 20 0 5|100 9 49 9|50 9 50 6|" + bids + offer);
+    }
+
+    private static void alone(String statement, String due) {
+        String before = "market 5 50 20 time;trader a 100 9;trader b 50 9;bid a 9 3 9;bid a 8 3 9;offer b 60 3 9;";
+        String nothing = "0 0 0 0 0 0 0.0 0.0";
+        check.sameText("behind " + statement, Check.state(Check.loaded(before + statement)), due + nothing);
     }
 
     private static void amendedOrders() {
